@@ -31,10 +31,10 @@ public final class IcicleEaves {
     // What is worked out on the way: made once, as all calls share one room.
     private final Eaves trial = new Eaves();
     private final int[] falls = new int[ICICLES_MOST];
+    private final int[] lengths = new int[KNOCK_HOURS * ICICLES_MOST];
     private final Guess heatGuess = new HeatGuess();
     private final Guess icicleGuess = new IcicleGuess();
     private final Guess roofGuess = new RoofGuess();
-    private final int[] lengths = new int[KNOCK_HOURS * ICICLES_MOST];
 
     public IcicleEaves() {
         for (int i = 0; i < IMAGES; i++) {
@@ -1083,7 +1083,7 @@ public final class IcicleEaves {
             // A group of one can not be fewer, so the search ends there.
             for (int w = COLDEST; w <= WARMEST && set != 0 && fewest > 1; w++) {
                 for (int amount = 0; amount <= amountMost && fewest > 1; amount++) {
-                    int group = largestGroup(house, one, w, amount, set);
+                    int group = largestGroup(house, one, w, amount, set, fewest);
                     if (group < fewest) {
                         fewest = group;
                         best = warmthStep * (w - COLDEST) + amount;
@@ -1093,10 +1093,10 @@ public final class IcicleEaves {
             return best;
         }
 
-        /** How many of the candidates in the set share the commonest of their answers. */
-        private int largestGroup(House house, int one, int w, int amount, int set) {
+        /** How many of the candidates in the set share the commonest of their answers; counted up to a limit. */
+        private int largestGroup(House house, int one, int w, int amount, int set, int limit) {
             int largest = 0;
-            for (int a = 0; a < answers.length; a++) {
+            for (int a = 0; a < answers.length && largest < limit; a++) {
                 if ((set >> a & 1) != 0) {
                     answers[a] = byLook(house, one, w, amount, a);
                     int same = 1;

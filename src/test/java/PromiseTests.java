@@ -177,6 +177,12 @@ public final class PromiseTests {
     due(7, "read what came behind", x.read(), 1);
     due(7, "clear", x.clear(), 8);
     due(7, "the house stays", x.warmth(0), 3);
+    typeAll(x, "house 99");
+    typeAll(x, "house 9");
+    due(7, "of the figures ahead nothing is left", x.read(), -17);
+    typeAll(x, "housex");
+    typeAll(x, "house");
+    due(7, "of the letters ahead nothing is left", x.read(), -15);
   }
 
   private static void reads(String s, int want) {
@@ -212,6 +218,9 @@ public final class PromiseTests {
     reads("House 9;", -10);
     reads("houses 9;", -10);
     reads("hous 9;", -10);
+    reads("housez 9;", -10);
+    reads("xouse 9;", -10);
+    reads("houze 9;", -10);
     reads(";house 9;", -10);
     reads("9;", -10);
     reads("warm 1 1;house 9;", -10);
@@ -249,6 +258,7 @@ public final class PromiseTests {
     reads("house 9;", 1);
     reads("  house   09  ;  ", 1);
     reads("house18;warm7 0;roof5 9 60;", 3);
+    reads("house 0;warm 0 0;warm 7 18;hours 1;", 4);
     reads("house 0;warm 3 18;roof 3 9 60;ice 0 5 7 30 40;hours 99;", 5);
     reads("house 9;" + times("roof 0 0 0;", 3) + times("ice 2 0 0 1 1;", 6), 10);
     reads("house 0;" + times("hours 99;", 15), 16);
@@ -274,6 +284,12 @@ public final class PromiseTests {
     due(8, "nothing to undo", x.undo(), NO);
     due(8, "the fraction stays", x.part(0) * 100 + x.part(1), 925);
     status(8, "status stays", x, 1, 1, 0);
+    typeAll(x, "house 0;roof 4 3 20;roof 5 6 7;ice 1 2 3 4 5;");
+    due(8, "items", x.read(), 4);
+    int[] roofs = {4, 3, 20, 5, 6, 7};
+    for (int k = 0; k < 6; k++) due(8, "roof " + k, x.about(k / 3, k % 3), roofs[k]);
+    int[] told = {1, 2, 3, 4, 5, 0};
+    for (int k = 0; k < 6; k++) due(8, "ice " + k, x.of(0, k), told[k]);
     due(8, "images stay", x.from(0), 1);
     due(8, "the hour of the image", x.count(2), 0);
   }
@@ -462,6 +478,11 @@ public final class PromiseTests {
     x.ice(0, 0, 0, 5, 40);
     x.knocks(0);
     due(15, "lost or not", x.more(0), 2);
+    x.warm(1, 4);
+    x.warm(2, -2);
+    due(15, "by the warmth of the next hour", x.more(0), -4);
+    x.hours(1);
+    due(15, "by the warmth of the one behind it", x.more(0), 1);
   }
 
   private static void water(String what, int kind, int w, int e, int s, int want) {
@@ -573,6 +594,11 @@ public final class PromiseTests {
     due(20, "those fallen are none", x.first(), 1);
     x.hours(1);
     due(20, "none is left", x.first(), NONE);
+    x.house(-1);
+    x.roof(0, 3, 60);
+    x.ice(0, 0, 0, 1, 10);
+    x.ice(0, 0, 0, 1, 12);
+    due(20, "the 0th", x.first(), 0);
     status(20, "first", x, 0, 0, 0);
   }
 
@@ -631,7 +657,6 @@ public final class PromiseTests {
     x.roof(5, 0, 60);
     due(23, "no icicles", x.least(0), 0);
     x.ice(0, 0, 0, 1, 10);
-    long before = x.digest();
     due(23, "by heat 0 none falls", x.least(0), 0);
     due(23, "none on the other", x.least(1), 0);
     x.ice(1, 0, 0, 1, 40);
@@ -644,7 +669,11 @@ public final class PromiseTests {
     due(23, "one fallen does not count", x.least(1), 0);
     due(23, "heat stays", x.about(0, 1), 3);
     status(23, "least", x, 0, 0, 0);
-    due(23, "nothing changes", before == x.digest() ? 1 : 0, 0);
+    x = roofed(-1, 5, 0, 60);
+    x.ice(0, 0, 0, 1, 40);
+    long before = x.digest();
+    due(23, "the 0th falls by any heat", x.least(0), NONE);
+    due(23, "nothing changes", x.digest(), before);
   }
 
   private static void peak() {
@@ -670,6 +699,8 @@ public final class PromiseTests {
     due(24, "how long by then", x.peak(0, 1), 7);
     x.hours(1);
     due(24, "an hour later", x.peak(0, 0), 47);
+    x.hours(6);
+    due(24, "in the 49th it would be longer", x.peak(0, 0), 41);
   }
 
   private static void most() {
@@ -947,6 +978,9 @@ public final class PromiseTests {
     due(36, "nothing changes", x.digest(), before);
     x.knocks(0);
     due(36, "one lost is not named", x.sticks(0), 21);
+    x.knocks(2);
+    due(36, "one is left", x.sticks(NONE), 1);
+    due(36, "for both", x.sticks(0), 11);
     x = steady();
     x.ice(0, 0, 0, 5, 10);
     x.ice(0, 0, 0, 3, 40);
