@@ -41,6 +41,18 @@ final class ChanceEdges extends Edge {
     chance(x, 0, 6, 1, 468559, 1000000);
   }
 
+  @Sentence(of = 0, says = "ODDS: each of n (0 .. 6) HOURS is 3 warmer than told")
+  static void noHourBehindTheLastCounts() {
+    IcicleEaves x = frozen();
+    hang(x, 5, 4);
+    chance(x, 0, 0, 0, 0, 1);
+    chance(x, 0, 1, 0, 1, 1);
+    IcicleEaves y = steady();
+    hang(y, 5, 16);
+    chance(y, 0, 5, 0, 0, 1);
+    chance(y, 0, 6, 0, 1, 1);
+  }
+
   @Sentence(of = 0, says = "(9 at most) by c of 10 (0 .. 10), apart")
   static void oddsBy0Of10AndBy10Of10() {
     IcicleEaves x = fallsByWarmerHours();
@@ -132,26 +144,49 @@ final class ChanceEdges extends Edge {
     return x;
   }
 
-  private static void fallFromThreeBareRoofs(int root, int seed, int n, int want) {
-    IcicleEaves x = bare(3, root);
-    looks(x, "winters(" + seed + ", " + n + ") of roots that hold " + root, () -> x.winters(seed, n), want);
+  /** So much snow falls in the first of the hours by a seed, on that of three roofs, and no more. */
+  private static void falls(int seed, int roof, int amount) {
+    for (int root = 1; root <= 7; root++) {
+      for (int r = 0; r < 3; r++) {
+        IcicleEaves x = bare(3, 40);
+        x.ice(r, 0, 0, 1, root);
+        int want = r == roof && amount + 1 > root ? 1 : 0;
+        looks(x, "winters(" + seed + ", 1), a root on " + r + " that holds " + root, () -> x.winters(seed, 1), want);
+      }
+    }
   }
 
   @Sentence(of = 0, says = "X is SEED at first; n times X becomes X times 1103515245 and 12345, by 2147483648 what is left over")
-  static void wintersByTheSeed0() {
-    // 0 fall on the roof 0, then 3 on the roof 0.
-    fallFromThreeBareRoofs(1, 0, 1, 0);
-    fallFromThreeBareRoofs(3, 0, 2, 1);
-    fallFromThreeBareRoofs(4, 0, 2, 0);
+  static void wintersByTheLeastSeedAndTheMost() {
+    falls(0, 0, 0);
+    falls(999999, 1, 2);
   }
 
   @Sentence(of = 0, says = "X is SEED at first; n times X becomes X times 1103515245 and 12345, by 2147483648 what is left over")
-  static void wintersByTheSeed999999() {
-    // 2 fall on the roof 1, then 5 on the roof 2.
-    fallFromThreeBareRoofs(2, 999999, 1, 1);
-    fallFromThreeBareRoofs(3, 999999, 1, 0);
-    fallFromThreeBareRoofs(5, 999999, 2, 1);
-    fallFromThreeBareRoofs(6, 999999, 2, 0);
+  static void eachHourGoesOnFromTheXAheadOfIt() {
+    // By 999999 snow falls on 1: 2, on 2: 5, on 1: 3; by 0 on 0: 0, on 0: 3.
+    int[] want = {0, 1, 2, 2};
+    for (int n = 0; n < 4; n++) {
+      IcicleEaves x = bare(3, 2);
+      int hours = n;
+      looks(x, "winters(999999, " + n + ")", () -> x.winters(999999, hours), want[n]);
+    }
+    IcicleEaves y = bare(3, 3), z = bare(3, 4);
+    looks(y, "3 in the second hour", () -> y.winters(0, 2), 1);
+    looks(z, "not 4", () -> z.winters(0, 2), 0);
+  }
+
+  @Sentence(of = 0, says = "SNOW of ROOF X by 65536 (cut), by 3 left over, if there, is more by X by 1048576 (cut), by 6 left over (60 at most)")
+  static void wintersOnEachRoofAndOfEachAmount() {
+    falls(1, 2, 2);
+    falls(5, 1, 1);
+    falls(9, 0, 1);
+    falls(11, 0, 4);
+    falls(25, 0, 5);
+    falls(33, 2, 5);
+    // X by 1048576 is near a whole number: 1048575 or 1048577 would be cut otherwise.
+    falls(959, 0, 3);
+    falls(12064, 0, 3);
   }
 
   @Sentence(of = 0, says = "SNOW of ROOF X by 65536 (cut), by 3 left over, if there, is more by X by 1048576 (cut), by 6 left over (60 at most)")

@@ -1,3 +1,4 @@
+import java.io.File;
 import java.io.IOException;
 import java.lang.reflect.InvocationTargetException;
 import java.lang.reflect.Method;
@@ -13,6 +14,7 @@ public final class EdgeTests {
   private static final Class<?>[] TESTS = {TermEdges.class, KindEdges.class, TextEdges.class, HouseEdges.class,
       HourEdges.class, FallEdges.class, KnockEdges.class, GuessEdges.class, ChanceEdges.class, KeepEdges.class};
   private static final int PROMISES = 44;
+  private static final File SOURCES = new File("src/test/java");
   private static final Path DOCUMENT = Path.of("../shared/DOC.md");
 
   private static void run(Method test) {
@@ -41,6 +43,14 @@ public final class EdgeTests {
     return Files.isReadable(DOCUMENT) ? Files.readString(DOCUMENT) : "";
   }
 
+  private static void failIfOneIsNotRun() {
+    String[] files = SOURCES.list((folder, name) -> name.endsWith("Edges.java"));
+    if (files == null) return;
+    for (String file : files) {
+      if (Arrays.stream(TESTS).noneMatch(c -> file.equals(c.getName() + ".java"))) Edge.failed(file + " is not run");
+    }
+  }
+
   public static void main(String[] args) throws IOException {
     String document = document();
     Set<Integer> promises = new TreeSet<>();
@@ -57,6 +67,7 @@ public final class EdgeTests {
       }
     }
     Edge.begin("EdgeTests");
+    failIfOneIsNotRun();
     for (int p = 1; p <= PROMISES; p++) if (!promises.contains(p)) Edge.failed("promise " + p + " has no test");
     int wrong = Edge.wrongOnes();
     System.out.println(wrong == 0 ? "EdgeTests: " + tests + " tests, all is as due" : "EdgeTests: " + wrong + " are not as due");

@@ -79,6 +79,67 @@ final class FallEdges extends Edge {
     looks(x, "winters(0, 60)", () -> x.winters(0, 60), 2);
   }
 
+  /** Three roofs, of which the last gives 2 water an hour; six icicles on it that fall behind 6, 5, .. 1 hours. */
+  private static IcicleEaves fullHouse() {
+    IcicleEaves x = make();
+    x.roof(0, 0, 0);
+    x.roof(0, 0, 0);
+    x.roof(0, 3, 60);
+    for (int i = 0; i < 6; i++) x.ice(2, 0, 7, 5, 4 + 2 * (6 - i));
+    return x;
+  }
+
+  @Sentence(of = 0, says = "ICICLES 0 .. 5, as they come")
+  static void looksAtTheLastOfSixIcicles() {
+    IcicleEaves x = fullHouse();
+    looks(x, "more(5)", () -> x.more(5), 2);
+    looks(x, "ahead(5, 96, 0)", () -> x.ahead(5, 96, 0), 7);
+    looks(x, "fall(5)", () -> x.fall(5), 1);
+    looks(x, "first()", x::first, 5);
+    for (int k = 0; k < 6; k++) {
+      int asked = k;
+      looks(x, "order(" + k + ")", () -> x.order(asked), 5 - k);
+    }
+    looks(x, "path()", x::path, 0);
+    looks(x, "peak(5, 1)", () -> x.peak(5, 1), 5);
+    looks(x, "peak(0, 1)", () -> x.peak(0, 1), 15);
+    looks(x, "is(5)", () -> x.is(5), 63);
+    looks(x, "look(5)", () -> x.look(5), 1);
+    looks(x, "winters(0, 6)", () -> x.winters(0, 6), 6);
+    due("odds(5, 1, 0)", x.odds(5, 1, 0), 1);
+    due("above", x.part(0), 1);
+    due("hours(5)", x.hours(5), 1);
+    due("count(4)", x.count(4), 62);
+  }
+
+  @Sentence(of = 0, says = "ROOFS 0 .. 2, as they come")
+  static void looksAtTheLastOfThreeRoofs() {
+    IcicleEaves x = fullHouse();
+    looks(x, "about(2, 3)", () -> x.about(2, 3), 2);
+    looks(x, "least(2)", () -> x.least(2), 0);
+    looks(x, "warms(2)", () -> x.warms(2), 1023);
+    looks(x, "tell(2)", () -> x.tell(2), 9);
+    looks(x, "kinds(2)", () -> x.kinds(2), 63);
+    looks(x, "ask(2)", () -> x.ask(2), 702);
+    looks(x, "count(6)", () -> x.count(6), 60);
+  }
+
+  @Sentence(of = 0, says = "ICICLES 0 .. 5, as they come")
+  static void knocksAndSticksAtSixIcicles() {
+    IcicleEaves x = fullHouse();
+    // Ahead of the hours 1 .. 4 they are 5, 7, 9, 11 long, and 6, 5, 4, 3 of them hang.
+    int[] row = {0, 1, 3, 2};
+    looks(x, "most(4, NONE)", () -> x.most(4, NONE), 32);
+    for (int k = 0; k < 4; k++) {
+      int asked = k;
+      looks(x, "most(4, " + k + ")", () -> x.most(4, asked), row[k]);
+    }
+    // Behind 2 hours 0 .. 3 hang, behind 3 hours 0 .. 2.
+    looks(x, "sticks(NONE)", () -> x.sticks(NONE), 9);
+    looks(x, "sticks(0)", () -> x.sticks(0), 1);
+    looks(x, "sticks(8)", () -> x.sticks(8), 32);
+  }
+
   // ---- 18: ahead
 
   @Sentence(of = 18, says = "AHEAD: how LONG (0), LOST (1). BAD.")
@@ -190,6 +251,14 @@ final class FallEdges extends Edge {
     looks(z, "in the 89th hour", z::first, 1);
   }
 
+  @Sentence(of = 20, says = "FIRST. NONE.")
+  static void oneThatFallsInThe96thIsFirst() {
+    IcicleEaves x = rare();
+    hang(x, 1, 13);
+    hang(x, 1, 12);
+    looks(x, "in the 96th hour", x::first, 1);
+  }
+
   @Sentence(of = 0, says = "FIRST: which FALLS first, of like ones the least number; none.")
   static void ofLikeOnesTheLeastFallsFirst() {
     IcicleEaves x = steady();
@@ -241,6 +310,18 @@ final class FallEdges extends Edge {
     // 2 falls behind 96 by now.
     int[] left = {1, 4, 2, 0};
     for (int k = 0; k < 4; k++) due("order(" + k + ") of those left", x.order(k), left[k]);
+  }
+
+  @Sentence(of = 0, says = "ORDER: ICICLES not LOST by FALL, those without behind all others, of like ones by numbers: the k-th.")
+  static void oneThatFallsInThe97thIsOneWithout() {
+    IcicleEaves x = rare();
+    x.hours(7);
+    hang(x, 1, 40);
+    hang(x, 1, 13);
+    looks(x, "order(0)", () -> x.order(0), 0);
+    looks(x, "order(1)", () -> x.order(1), 1);
+    x.hours(1);
+    looks(x, "order(0): it falls in the 96th by now", () -> x.order(0), 1);
   }
 
   // ---- 22: path
@@ -356,6 +437,15 @@ final class FallEdges extends Edge {
     x.undo();
     x.hours(1);
     looks(x, "it is fallen", () -> x.least(0), 0);
+  }
+
+  @Sentence(of = 0, says = "LEAST for a ROOF: the least HEAT (0 .. 9) by which, told now, none of those on it FALLS within 48 HOURS; none.")
+  static void theLastOfSixIciclesCountsToo() {
+    IcicleEaves x = frozen();
+    for (int i = 0; i < 5; i++) hang(x, 5);
+    looks(x, "five that hang", () -> x.least(0), 0);
+    hang(x, 5, 4);
+    looks(x, "a sixth that falls", () -> x.least(0), NONE);
   }
 
   // ---- 24: peak

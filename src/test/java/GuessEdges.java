@@ -103,6 +103,17 @@ final class GuessEdges extends Edge {
     due("of the other", x.warms(1), 512);
   }
 
+  @Sentence(of = 0, says = "HEATS of a ROOF (bits 0 to 9) by which, its KIND as it is, all SEEN of it are so.")
+  static void eachRoofByItsOwnKind() {
+    IcicleEaves x = make();
+    x.roof(PLAIN, 0, 0);
+    x.roof(SLATE, 0, 0);
+    x.roof(THATCH, 0, 0);
+    for (int r = 0; r < 3; r++) x.seen(r, 0, 60, 4);
+    int[] want = {16, 4, 768};
+    for (int r = 0; r < 3; r++) due("warms(" + r + ")", x.warms(r), want[r]);
+  }
+
   // ---- 28: tell
 
   @Sentence(of = 28, says = "TELL. NONE. BAD.")

@@ -183,6 +183,23 @@ final class HourEdges extends Edge {
     no(x, "undo() behind the last", x::undo);
   }
 
+  @Sentence(of = 13, says = "UNDO: the HOUR then. NO: none may be.")
+  static void thereIsUndoAgainBehindNone() {
+    IcicleEaves x = steady();
+    hang(x, 5);
+    x.hours(3);
+    x.undo();
+    no(x, "none may be", x::undo);
+    x.heats(0, 9);
+    x.hours(2);
+    due("undo() of hours", x.undo(), 0);
+    due("heat as told", x.about(0, 1), 9);
+    due("long", x.of(0, 3), 5);
+    due("undo() of heat", x.undo(), 0);
+    due("heat", x.about(0, 1), 3);
+    due("snow", x.about(0, 2), 60);
+  }
+
   @Sentence(of = 0, says = "(8 at most; behind WARMTH told, a ROOF, an ICICLE that comes none may be).")
   static void eightMayBeUndoneAtMost() {
     IcicleEaves x = make();
@@ -212,6 +229,29 @@ final class HourEdges extends Edge {
     for (int k = 3; k >= 0; k--) {
       due("undo() " + k, x.undo(), 0);
       due("digest() " + k, x.digest(), digests[k]);
+    }
+  }
+
+  @Sentence(of = 0, says = "UNDO: SNOW, HEAT, LONG, LOST, the HOUR as ahead of the last HOURS gone by, SNOW that fell, HEAT told, ICICLE knocked off")
+  static void allThreeRoofsAndAllSixIciclesAreUndone() {
+    IcicleEaves x = make();
+    for (int r = 0; r < 3; r++) x.roof(0, 3 + r, 50);
+    for (int i = 0; i < 6; i++) x.ice(i / 2, 0, 0, 5, i % 2 == 0 ? 6 : 40);
+    long before = x.digest();
+    due("hours(3)", x.hours(3), 3);
+    x.undo();
+    due("digest() behind the hours undone", x.digest(), before);
+    for (int r = 0; r < 3; r++) {
+      x.snows(r, 5);
+      x.heats(r, 9);
+      x.undo();
+      x.undo();
+      due("digest() behind roof " + r, x.digest(), before);
+    }
+    for (int i = 0; i < 6; i++) {
+      x.knocks(i);
+      x.undo();
+      due("digest() behind icicle " + i, x.digest(), before);
     }
   }
 

@@ -51,6 +51,25 @@ final class KeepEdges extends Edge {
   }
 
   @Sentence(of = 0, says = "IMAGES 0, 1 keep all but them, THE TEXT, THE FRACTION and STATUS")
+  static void anImageKeepsAllThoughAnotherFullHouseCameBehindIt() {
+    IcicleEaves x = crowded();
+    x.image(0);
+    long before = x.digest();
+    x.house(9);
+    for (int r = 0; r < 3; r++) x.roof(5, 8, 50);
+    for (int i = 0; i < 6; i++) x.ice(i / 3, 5 - i, 7 - i, 20, 21);
+    x.seen(2, 9, 60, 60);
+    x.note(5, 30, 9, 20, 50);
+    x.mark(2, 9, 9, 60, 60);
+    for (int k = 0; k < 9; k++) x.hours(1);
+    x.from(0);
+    due("digest()", x.digest(), before);
+    due("undo()", x.undo(), 0);
+    due("undo()", x.undo(), 0);
+    due("the last icicle hangs again", x.of(5, 5), 0);
+  }
+
+  @Sentence(of = 0, says = "IMAGES 0, 1 keep all but them, THE TEXT, THE FRACTION and STATUS")
   static void theTwoImagesAreApart() {
     IcicleEaves x = crowded();
     x.image(0);

@@ -173,6 +173,19 @@ final class KnockEdges extends Edge {
     looks(x, "sticks(0)", () -> x.sticks(0), 12);
   }
 
+  @Sentence(of = 0, says = "STICKS: two who knock name ICICLES i, j of those not LOST")
+  static void oneLostIsNotNamedThoughTheOthersAreLostByThen() {
+    IcicleEaves x = frozen();
+    for (int i = 0; i < 3; i++) hang(x, 5, 4);
+    x.knocks(1);
+    looks(x, "sticks(NONE)", () -> x.sticks(NONE), 4);
+    int[] want = {0, 2, 20, 22};
+    for (int k = 0; k < 4; k++) {
+      int asked = k;
+      looks(x, "sticks(" + k + ")", () -> x.sticks(asked), want[k]);
+    }
+  }
+
   @Sentence(of = 0, says = "the one waits for 2 HOURS, the other for 3")
   static void theOneWaitsFor2HoursTheOtherFor3() {
     IcicleEaves x = steady();

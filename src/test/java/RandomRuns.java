@@ -87,6 +87,19 @@ public final class RandomRuns {
   /** Icicles last for a while only where it is cold at most hours and they get little water. */
   private void someHouse() {
     call("house", from(-7, 1));
+    furnish();
+  }
+
+  /** Near the last hour, so that it is reached and looks go beyond it. */
+  private void lateHouse() {
+    call("house", -9);
+    for (int k = 0; k < 104; k++) call("hours", 96);
+    call("hours", from(1, 15));
+    for (int h = 0; h < 8; h++) call("warm", h, from(-7, 1));
+    furnish();
+  }
+
+  private void furnish() {
     for (int k = dice.nextInt(5); k > 0; k--) call("warm", from(0, 7), from(-6, 6));
     int roofs = from(1, 3);
     for (int r = 0; r < roofs; r++) call("roof", from(0, 5), from(0, 9), from(0, 60));
@@ -142,9 +155,13 @@ public final class RandomRuns {
   private boolean run() {
     List<String> names = new ArrayList<>(BOUNDS.keySet());
     List<String> rare = List.of("house", "clear", "read", "type", "warm", "hours");
-    if (dice.nextInt(8) != 0) someHouse();
+    boolean late = dice.nextInt(12) == 0;
+    if (late) {
+      names.removeAll(List.of("house", "read"));
+      lateHouse();
+    } else if (dice.nextInt(8) != 0) someHouse();
     for (int k = 0; k < CALLS && !wrong; k++) {
-      int way = dice.nextInt(100);
+      int way = late ? 2 + dice.nextInt(98) : dice.nextInt(100);
       if (way == 0) someHouse();
       else if (way == 1) typeText();
       else if (way <= 4) someRows();
